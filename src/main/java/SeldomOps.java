@@ -469,7 +469,7 @@ public final class SeldomOps {
         }
 
         long at(int k) {
-            return within(k, depth) ? words[k] : NONE;
+            return k >= 0 && k < depth ? words[k] : NONE;
         }
 
         void push(long word) {
@@ -691,8 +691,8 @@ public final class SeldomOps {
 
     /** Judges METHODS, one at a time. */
     private static final class Judge {
-        // Each SHAPE is new once and other once for each LOCAL at most; the last round finds none.
-        static final int ROUNDS = OPERATIONS * (LOCALS + 1) + 1;
+        // Each SHAPE is new once, and other once for each LOCAL at most.
+        static final int ROUNDS = OPERATIONS * (LOCALS + 1);
 
         final Program program;
         final Shape behind = new Shape();
@@ -708,8 +708,18 @@ public final class SeldomOps {
         /** What judge() answers. */
         int examine(int m, Method method) {
             method.judged = true;
-            method.shapes.forget();
-            int fault = firstFault(method);
+            begin(method);
+            int fault = method.operations == 0 ? NO_NEXT : NO_FAULT;
+            int i = 0;
+            for (int round = 0; round < ROUNDS && i != NONE && fault == NO_FAULT; round++) {
+                place = i;
+                method.shapes.due[i] = false;
+                fault = ownFault(method, i);
+                if (fault == NO_FAULT && !(sendToHandlers(method, i) && sendOn(method, i))) {
+                    fault = UNLIKE_STACKS;
+                }
+                i = method.shapes.leastDue();
+            }
             method.faultless = fault == NO_FAULT;
             if (method.faultless) {
                 return 0;
@@ -719,27 +729,9 @@ public final class SeldomOps {
             return -10 - fault;
         }
 
-        private int firstFault(Method method) {
-            place = 0;
-            if (method.operations == 0) {
-                return NO_NEXT;
-            }
-            begin(method);
-            for (int round = 0; round < ROUNDS; round++) {
-                int i = method.shapes.leastDue();
-                if (i == NONE) {
-                    return NO_FAULT;
-                }
-                method.shapes.due[i] = false;
-                int fault = follow(method, i);
-                if (fault != NO_FAULT) {
-                    return fault;
-                }
-            }
-            return NO_FAULT;
-        }
-
+        /** OPERATION 0 has the SHAPE of the ARGUMENTS, the others none. */
         private void begin(Method method) {
+            place = 0;
             behind.stack.clear();
             for (int j = 0; j < LOCALS; j++) {
                 behind.locals[j] = UNUSABLE;
@@ -749,17 +741,8 @@ public final class SeldomOps {
                 behind.store(word, method.kinds[k]);
                 word += width(method.kinds[k]);
             }
+            method.shapes.forget();
             method.shapes.bring(0, behind);
-        }
-
-        private int follow(Method method, int i) {
-            place = i;
-            method.shapes.load(i, behind);
-            int fault = ownFault(method, i);
-            if (fault != NO_FAULT) {
-                return fault;
-            }
-            return sendToHandlers(method, i) && sendOn(method, i) ? NO_FAULT : UNLIKE_STACKS;
         }
 
         /** The first FAULT of OPERATION i by itself; without one, the SHAPE behind it is left. */
@@ -767,6 +750,7 @@ public final class SeldomOps {
             int code = method.codes[i];
             int a = method.firsts[i];
             int b = method.seconds[i];
+            method.shapes.load(i, behind);
             if (!operandsAreSuch(code, a, b)) {
                 return WRONG_OPERAND;
             }
@@ -1170,7 +1154,7 @@ public final class SeldomOps {
         }
 
         boolean hasCell(int i, int k) {
-            return within(i, made) && within(k, sizes[i]);
+            return i >= 0 && i < made && k >= 0 && k < sizes[i];
         }
 
         long read(int i, int k) {
@@ -1217,12 +1201,7 @@ public final class SeldomOps {
             return all <= THINGS;
         }
 
-        /** An array with all that is in it; its number. */
-        int makeArray(int type, int[] lengths, int levels) {
-            return makeRow(this, type, lengths, 0, levels);
-        }
-
-        /** A row that lies in as many others as its level tells; behind the last level its cells stay null. */
+        /** An array with all that is in it, of which each level has one more size; behind the last one is null. */
         private static int makeRow(Things things, int type, int[] lengths, int level, int levels) {
             if (level >= levels || level >= lengths.length) {
                 return NONE;
@@ -1333,10 +1312,20 @@ public final class SeldomOps {
         }
 
         int run(int steps) {
-            stepsMade = 0;
-            while (underWay > 0 && stepsMade < steps) {
-                stepsMade++;
-                step(calls[underWay - 1]);
+            for (stepsMade = 0; stepsMade < steps && underWay > 0; stepsMade++) {
+                Call call = calls[underWay - 1];
+                int i = call.at;
+                call.next = i + 1;
+                failingThing = NONE;
+                int number = perform(call, call.method.codes[i], call.method.firsts[i], call.method.seconds[i]);
+                if (number == NONE) {
+                    call.at = call.next;
+                } else {
+                    raise(number, call.number, i);
+                }
+                if (underWay > 0) {
+                    mostWords = Math.max(mostWords, calls[underWay - 1].stack.depth);
+                }
             }
             if (underWay > 0) {
                 return OUT_OF_STEPS;
@@ -1379,22 +1368,6 @@ public final class SeldomOps {
                 return NONE;
             }
             return isWide(kind) ? bits : (int) bits;
-        }
-
-        private void step(Call call) {
-            Method method = call.method;
-            int i = call.at;
-            call.next = i + 1;
-            failingThing = NONE;
-            int number = perform(call, method.codes[i], method.firsts[i], method.seconds[i]);
-            if (number == NONE) {
-                call.at = call.next;
-            } else {
-                raise(number, call.number, i);
-            }
-            if (underWay > 0) {
-                mostWords = Math.max(mostWords, calls[underWay - 1].stack.depth);
-            }
         }
 
         private int perform(Call call, int code, int a, int b) {
@@ -1535,7 +1508,7 @@ public final class SeldomOps {
             if (!things.haveRoom(lengths, levels)) {
                 return NO_ROOM;
             }
-            stack.push(things.makeArray(type, lengths, levels));
+            stack.push(Things.makeRow(things, type, lengths, 0, levels));
             return NONE;
         }
 
