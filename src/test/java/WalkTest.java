@@ -24,6 +24,7 @@ public final class WalkTest {
         thingsAtTheirMost();
         thingsAndCells();
         latestWalkStays();
+        allRowsFull();
         C.finish();
     }
 
@@ -316,5 +317,42 @@ public final class WalkTest {
         C.due("thing stays", x.thing(0, 1), 3);
         C.due("cell stays", x.cell(0, 2), 0);
         C.due("value stays", x.value(), 0);
+    }
+
+    /** 8 METHODS, 40 CONSTANTS, 8 TABLES of 8 entries; in the last METHOD 8 ARGUMENTS, 60 OPERATIONS, 6 HANDLERS. */
+    private static void allRowsFull() {
+        SeldomOps x = new SeldomOps();
+        for (int c = 0; c < 40; c++) {
+            x.constant(c);
+        }
+        for (int t = 0; t < 8; t++) {
+            x.table(false, 10, 0);
+            for (int e = 0; e < 8; e++) {
+                x.entry(t, 10 + e, e == 7 ? 56 : 0);
+            }
+        }
+        Programs.method(x, 0, NO_ARGUMENTS, op(0, 0), op(0, 1), op(0, 2), op(0, 3), op(0, 4), op(0, 5), op(0, 6), op(0, 17),
+            op(35, 7), op(34, 0));
+        for (int m = 1; m < 7; m++) {
+            Programs.method(x, 5, NO_ARGUMENTS, op(34, 5));
+        }
+        int last = Programs.method(x, 0, new int[] {0, 0, 0, 0, 0, 0, 0, 0});
+        for (int i = 0; i < 27; i++) {
+            Programs.add(x, last, op(1, 39), op(9));
+        }
+        // By the last ARGUMENT and the last entry of the last TABLE to 56; null fails to the last HANDLER's 58.
+        Programs.add(x, last, op(5, 7, 0), op(23, 7), op(4), op(31), op(28, 8), op(34, 0));
+        for (int number = 6; number > 0; number--) {
+            x.handler(last, 57, 58, 58, number);
+        }
+        C.due("no more OPERATIONS", x.op(last, 0, 0, 0), FULL);
+        C.due("no more HANDLERS", x.handler(last, 57, 58, 58, 0), FULL);
+        walked("all rows full", x, 3000, 0);
+        toldIs("all rows full", x, NONE, NONE, NONE, 70, 2, 1, 8, 1, 0);
+        for (int g = 10; g < 18; g++) {
+            x.give(g);
+        }
+        C.due("walk with 8 ARGUMENTS", x.walk(last, 3000), 0);
+        toldIs("8 ARGUMENTS", x, NONE, NONE, NONE, 60, 1, 1, 2, 1, 0);
     }
 }
