@@ -1,6 +1,7 @@
 /** Promises 15 to 20: walks, and what is told of them. */
 public final class WalkTest {
     private static final Checks C = new Checks();
+    private static final Runs R = new Runs(C);
     private static final int NONE = SeldomOps.NONE, BAD = SeldomOps.BAD, NO = SeldomOps.NO, FULL = SeldomOps.FULL;
     private static final int[] NO_ARGUMENTS = {};
 
@@ -30,17 +31,6 @@ public final class WalkTest {
 
     private static int[] op(int... o) {
         return o;
-    }
-
-    private static void toldIs(String what, SeldomOps x, int... want) {
-        for (int w = 0; w < want.length; w++) {
-            C.due(what + ": told(" + w + ")", x.told(w), want[w]);
-        }
-    }
-
-    private static void walked(String what, SeldomOps x, int steps, int answer) {
-        C.due(what + ": judge", Programs.judgeAll(x), 0);
-        C.due(what + ": walk", x.walk(0, steps), answer);
     }
 
     private static void giving() {
@@ -102,28 +92,28 @@ public final class WalkTest {
 
     private static void results() {
         SeldomOps x = Programs.single(2, op(2, 0x80000000), op(34, 2));
-        walked("a FLOAT", x, 9, 0);
+        R.walkedFor("a FLOAT", x, 9, 0);
         C.due("a FLOAT's bits with sign", x.value(), Integer.MIN_VALUE);
         x = Programs.single(4, op(4), op(34, 4));
-        walked("null", x, 9, 0);
+        R.walkedFor("null", x, 9, 0);
         C.due("null", x.value(), NONE);
         x = Programs.single(0, op(0, 0), op(0, 0), op(17, 3, 0), op(34, 0));
-        walked("failed", x, 9, 1);
+        R.walkedFor("failed", x, 9, 1);
         C.due("no RESULT of a failed one", x.value(), 0);
         x = Programs.single(0, op(0, 9), op(34, 0));
-        walked("out of STEPS", x, 1, 2);
+        R.walkedFor("out of STEPS", x, 1, 2);
         C.due("no RESULT of one that is not over", x.value(), 0);
     }
 
     private static void stepLimits() {
         SeldomOps x = Programs.single(0, op(0, 9), op(34, 0));
-        walked("no STEPS", x, 0, 2);
-        toldIs("no STEPS", x, NONE, NONE, NONE, 0, 1, 0, 0, 0, 1);
-        walked("just enough", x, 2, 0);
-        toldIs("just enough", x, NONE, NONE, NONE, 2, 1, 0, 1, 0, 0);
+        R.walkedFor("no STEPS", x, 0, 2);
+        R.toldIs("no STEPS", x, NONE, NONE, NONE, 0, 1, 0, 0, 0, 1);
+        R.walkedFor("just enough", x, 2, 0);
+        R.toldIs("just enough", x, NONE, NONE, NONE, 2, 1, 0, 1, 0, 0);
         x = Programs.single(5, op(20, 0));
-        walked("for ever", x, 3000, 2);
-        toldIs("for ever", x, NONE, NONE, NONE, 3000, 1, 0, 0, 0, 1);
+        R.walkedFor("for ever", x, 3000, 2);
+        R.toldIs("for ever", x, NONE, NONE, NONE, 3000, 1, 0, 0, 0, 1);
     }
 
     private static void callsAndTheirStacks() {
@@ -133,11 +123,11 @@ public final class WalkTest {
         // LOCAL 0 an INT, 1 and 2 a LONG, 3 an INT, 4 a FLOAT: the LONG less the INTS.
         Programs.method(x, 1, new int[] {0, 1, 0, 2}, op(5, 1, 1), op(5, 3, 0), op(18, 4), op(17, 1, 1), op(5, 0, 0),
             op(18, 4), op(17, 1, 1), op(34, 1));
-        walked("a CALL", x, 99, 0);
+        R.walkedFor("a CALL", x, 99, 0);
         C.due("its RESULT", x.value(), 4_999_999_996L);
-        toldIs("a CALL", x, NONE, NONE, NONE, 14, 2, 0, 5, 0, 0);
-        walked("in the CALL", x, 7, 2);
-        toldIs("in the CALL", x, NONE, NONE, NONE, 7, 2, 0, 5, 0, 2);
+        R.toldIs("a CALL", x, NONE, NONE, NONE, 14, 2, 0, 5, 0, 0);
+        R.walkedFor("in the CALL", x, 7, 2);
+        R.toldIs("in the CALL", x, NONE, NONE, NONE, 7, 2, 0, 5, 0, 2);
     }
 
     private static void failuresGoUp() {
@@ -145,24 +135,24 @@ public final class WalkTest {
         Programs.method(x, 0, NO_ARGUMENTS, op(0, 5), op(35, 1), op(34, 0), op(8), op(0, -3), op(34, 0));
         Programs.method(x, 5, NO_ARGUMENTS, op(35, 2), op(34, 5));
         Programs.method(x, 5, NO_ARGUMENTS, op(4), op(0, 1), op(0, 0), op(17, 4, 0), op(34, 5));
-        walked("caught nowhere", x, 99, 1);
-        toldIs("caught nowhere", x, 0, 3, 2, 7, 3, 1, 3, 0, 0);
+        R.walkedFor("caught nowhere", x, 99, 1);
+        R.toldIs("caught nowhere", x, 0, 3, 2, 7, 3, 1, 3, 0, 0);
         C.due("its THING", x.thing(0, 0), -100);
         x.handler(0, 0, 1, 3, 0);
         x.handler(0, 1, 2, 3, 1);
-        walked("HANDLERS for others", x, 99, 1);
+        R.walkedFor("HANDLERS for others", x, 99, 1);
         x.handler(0, 1, 2, 3, 0);
-        walked("caught by who CALLED", x, 99, 0);
+        R.walkedFor("caught by who CALLED", x, 99, 0);
         C.due("caught by who CALLED", x.value(), -3);
-        toldIs("caught by who CALLED", x, NONE, NONE, NONE, 10, 3, 1, 3, 1, 0);
+        R.toldIs("caught by who CALLED", x, NONE, NONE, NONE, 10, 3, 1, 3, 1, 0);
     }
 
     private static void failedAgain() {
         // The FAILURE THING that was caught fails again, at 31, and is the same one.
         SeldomOps x = Programs.single(5, op(30, 15), op(31), op(10), op(32), op(31));
         x.handler(0, 0, 2, 2, 15);
-        walked("failed again", x, 99, 1);
-        toldIs("failed again", x, 15, 4, 0, 5, 1, 1, 2, 1, 0);
+        R.walkedFor("failed again", x, 99, 1);
+        R.toldIs("failed again", x, 15, 4, 0, 5, 1, 1, 2, 1, 0);
         C.due("its TYPE", x.thing(0, 0), -85);
         C.due("its cells", x.thing(0, 1), 0);
         C.due("what it held is let go", x.thing(0, 2), 0);
@@ -174,25 +164,25 @@ public final class WalkTest {
         x.handler(0, 1, 2, 3, 5);
         x.handler(0, 1, 2, 6, -1);
         x.handler(0, 1, 2, 3, 1);
-        walked("the first that is for it", x, 99, 0);
+        R.walkedFor("the first that is for it", x, 99, 0);
         C.due("the first that is for it", x.value(), 20);
         x = Programs.single(0, op(4), op(27), op(34, 0), op(8), op(0, 10), op(34, 0));
         x.handler(0, 0, 1, 3, -1);
         x.handler(0, 2, 3, 3, -1);
-        walked("none covers it", x, 99, 1);
-        toldIs("none covers it", x, 1, 1, 0, 2, 1, 1, 1, 0, 0);
+        R.walkedFor("none covers it", x, 99, 1);
+        R.toldIs("none covers it", x, 1, 1, 0, 2, 1, 1, 1, 0, 0);
     }
 
     private static void handlersThatCoverThemselves() {
         // 1: fails with what it was given; its own FAILURE comes back to it for ever.
         SeldomOps x = Programs.single(5, op(30, 2), op(31));
         x.handler(0, 0, 2, 1, -1);
-        walked("covers itself", x, 50, 2);
-        toldIs("covers itself", x, NONE, NONE, NONE, 50, 1, 1, 1, 49, 1);
+        R.walkedFor("covers itself", x, 50, 2);
+        R.toldIs("covers itself", x, NONE, NONE, NONE, 50, 1, 1, 1, 49, 1);
         // Each time a new THING, till there are 60; then null comes.
         x = Programs.single(5, op(4), op(8), op(4), op(31));
         x.handler(0, 3, 4, 1, 1);
-        walked("till THINGS are 60", x, 3000, 2);
+        R.walkedFor("till THINGS are 60", x, 3000, 2);
         C.due("THINGS", x.told(5), 60);
         C.due("caught", x.told(7), 999);
         C.due("the last one", x.thing(59, 0), -99);
@@ -202,30 +192,30 @@ public final class WalkTest {
     private static void tooDeep() {
         SeldomOps x = new SeldomOps();
         Programs.method(x, 5, NO_ARGUMENTS, op(0, 4), op(35, 0), op(34, 5));
-        walked("too deep", x, 3000, 1);
-        toldIs("too deep", x, 8, 1, 0, 12, 6, 1, 1, 0, 0);
+        R.walkedFor("too deep", x, 3000, 1);
+        R.toldIs("too deep", x, 8, 1, 0, 12, 6, 1, 1, 0, 0);
         Programs.add(x, 0, op(8), op(34, 5));
         x.handler(0, 1, 2, 3, 8);
-        walked("caught in the sixth", x, 3000, 0);
-        toldIs("caught in the sixth", x, NONE, NONE, NONE, 19, 6, 1, 1, 1, 0);
+        R.walkedFor("caught in the sixth", x, 3000, 0);
+        R.toldIs("caught in the sixth", x, NONE, NONE, NONE, 19, 6, 1, 1, 1, 0);
     }
 
     private static void monitors() {
         SeldomOps x = Programs.single(5, op(30, 0), op(6, 0, 4), op(5, 0, 4), op(32), op(5, 0, 4), op(32),
             op(5, 0, 4), op(33), op(5, 0, 4), op(33), op(5, 0, 4), op(33), op(34, 5));
         for (int steps = 0; steps < 10; steps++) {
-            walked("monitors", x, steps, 2);
+            R.walkedFor("monitors", x, steps, 2);
             int held = steps < 4 ? 0 : steps < 6 ? 1 : steps < 8 ? 2 : 1;
             C.due("held after " + steps, x.thing(0, 2), steps == 0 ? BAD : held);
         }
-        walked("one too many", x, 99, 1);
-        toldIs("one too many", x, 6, 11, 0, 12, 1, 2, 1, 0, 0);
+        R.walkedFor("one too many", x, 99, 1);
+        R.toldIs("one too many", x, 6, 11, 0, 12, 1, 2, 1, 0, 0);
         C.due("held by none", x.thing(0, 2), 0);
         x = Programs.single(5, op(4), op(33), op(34, 5));
-        walked("null let go", x, 99, 1);
+        R.walkedFor("null let go", x, 99, 1);
         C.due("null let go", x.told(0), 1);
         x = Programs.single(5, op(4), op(32), op(34, 5));
-        walked("null taken", x, 99, 1);
+        R.walkedFor("null taken", x, 99, 1);
         C.due("null taken", x.told(0), 1);
     }
 
@@ -234,8 +224,8 @@ public final class WalkTest {
         SeldomOps x = new SeldomOps();
         Programs.method(x, 5, NO_ARGUMENTS, op(30, 0), op(10), op(32), op(35, 1), op(34, 5));
         Programs.method(x, 5, new int[] {4}, op(5, 0, 4), op(33), op(34, 5));
-        walked("who holds none", x, 99, 1);
-        toldIs("who holds none", x, 6, 1, 1, 6, 2, 2, 2, 0, 0);
+        R.walkedFor("who holds none", x, 99, 1);
+        R.toldIs("who holds none", x, 6, 1, 1, 6, 2, 2, 2, 0, 0);
         C.due("held by none", x.thing(0, 2), 0);
     }
 
@@ -246,52 +236,52 @@ public final class WalkTest {
             op(8), op(20, 6));
         Programs.method(x, 5, new int[] {4}, op(5, 0, 4), op(32), op(5, 0, 4), op(32), op(5, 0, 4), op(31));
         x.handler(0, 5, 6, 7, 7);
-        walked("inside", x, 11, 2);
+        R.walkedFor("inside", x, 11, 2);
         C.due("held thrice", x.thing(0, 2), 3);
-        walked("caught outside", x, 40, 2);
+        R.walkedFor("caught outside", x, 40, 2);
         C.due("held once", x.thing(0, 2), 1);
-        toldIs("caught outside", x, NONE, NONE, NONE, 40, 2, 1, 2, 1, 1);
+        R.toldIs("caught outside", x, NONE, NONE, NONE, 40, 2, 1, 2, 1, 1);
     }
 
     private static void leavingWithMonitors() {
         // FAILURE 6 at 34; the HANDLER lets go, then it may leave.
         SeldomOps x = Programs.single(0, op(30, 0), op(10), op(6, 0, 4), op(32), op(0, 8), op(34, 0),
             op(8), op(5, 0, 4), op(33), op(0, 4), op(34, 0));
-        walked("leaving with a monitor", x, 99, 1);
-        toldIs("leaving with a monitor", x, 6, 5, 0, 6, 1, 2, 2, 0, 0);
+        R.walkedFor("leaving with a monitor", x, 99, 1);
+        R.toldIs("leaving with a monitor", x, 6, 5, 0, 6, 1, 2, 2, 0, 0);
         C.due("let go", x.thing(0, 2), 0);
         x.handler(0, 5, 6, 6, 6);
-        walked("held still", x, 7, 2);
+        R.walkedFor("held still", x, 7, 2);
         C.due("held still", x.thing(0, 2), 1);
-        walked("let go, then left", x, 99, 0);
+        R.walkedFor("let go, then left", x, 99, 0);
         C.due("let go, then left", x.value(), 4);
-        toldIs("let go, then left", x, NONE, NONE, NONE, 11, 1, 2, 2, 1, 0);
+        R.toldIs("let go, then left", x, NONE, NONE, NONE, 11, 1, 2, 2, 1, 0);
     }
 
     private static void monitorsAsTheyStand() {
         SeldomOps x = Programs.single(5, op(30, 0), op(10), op(6, 0, 4), op(32), op(20, 4));
-        walked("as it stands", x, 9, 2);
+        R.walkedFor("as it stands", x, 9, 2);
         C.due("as it stands", x.thing(0, 2), 1);
-        walked("a new walk", x, 1, 2);
+        R.walkedFor("a new walk", x, 1, 2);
         C.due("a new walk", x.thing(0, 2), 0);
     }
 
     private static void thingsAtTheirMost() {
         SeldomOps x = Programs.single(5, op(30, 4), op(8), op(20, 0));
-        walked("61 THINGS", x, 3000, 1);
-        toldIs("61 THINGS", x, 7, 0, 0, 181, 1, 60, 1, 0, 0);
+        R.walkedFor("61 THINGS", x, 3000, 1);
+        R.toldIs("61 THINGS", x, 7, 0, 0, 181, 1, 60, 1, 0, 0);
         // What is caught then is null.
         Programs.add(x, 0, op(22, 5, 0), op(20, 4), op(34, 5));
         x.handler(0, 0, 1, 3, 7);
-        walked("null is caught", x, 3000, 0);
-        toldIs("null is caught", x, NONE, NONE, NONE, 183, 1, 60, 1, 1, 0);
+        R.walkedFor("null is caught", x, 3000, 0);
+        R.toldIs("null is caught", x, NONE, NONE, NONE, 183, 1, 60, 1, 1, 0);
     }
 
     private static void thingsAndCells() {
         SeldomOps x = new SeldomOps();
         x.constant(-7);
         Programs.method(x, 4, NO_ARGUMENTS, op(0, 2), op(24, 9, 1), op(10), op(0, 1), op(1, 0), op(26, 0, 1), op(34, 4));
-        walked("LONGS", x, 99, 0);
+        R.walkedFor("LONGS", x, 99, 0);
         C.due("thing", x.value(), 0);
         C.due("TYPE", x.thing(0, 0), 9);
         C.due("cells", x.thing(0, 1), 2);
@@ -310,7 +300,7 @@ public final class WalkTest {
 
     private static void latestWalkStays() {
         SeldomOps x = Programs.single(4, op(0, 3), op(24, 8, 1), op(34, 4));
-        walked("an array", x, 99, 0);
+        R.walkedFor("an array", x, 99, 0);
         x.op(0, 0, 0, 0);
         C.due("a refused walk", x.walk(0, 9), NO);
         C.due("told stays", x.told(3), 3);
@@ -347,12 +337,12 @@ public final class WalkTest {
         }
         C.due("no more OPERATIONS", x.op(last, 0, 0, 0), FULL);
         C.due("no more HANDLERS", x.handler(last, 57, 58, 58, 0), FULL);
-        walked("all rows full", x, 3000, 0);
-        toldIs("all rows full", x, NONE, NONE, NONE, 70, 2, 1, 8, 1, 0);
+        R.walkedFor("all rows full", x, 3000, 0);
+        R.toldIs("all rows full", x, NONE, NONE, NONE, 70, 2, 1, 8, 1, 0);
         for (int g = 10; g < 18; g++) {
             x.give(g);
         }
         C.due("walk with 8 ARGUMENTS", x.walk(last, 3000), 0);
-        toldIs("8 ARGUMENTS", x, NONE, NONE, NONE, 60, 1, 1, 2, 1, 0);
+        R.toldIs("8 ARGUMENTS", x, NONE, NONE, NONE, 60, 1, 1, 2, 1, 0);
     }
 }

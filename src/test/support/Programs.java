@@ -1,3 +1,5 @@
+import java.util.Arrays;
+
 /** Tells whole METHODS at once: an operation is {code}, {code, a} or {code, a, b}. */
 final class Programs {
     private Programs() {
@@ -38,5 +40,32 @@ final class Programs {
 
     static int[] op(int... codeAndOperands) {
         return codeAndOperands;
+    }
+
+    static int width(int kind) {
+        return kind == 1 || kind == 3 ? 2 : 1;
+    }
+
+    /** Operations that push values of these KINDS, told by I L F D T; CONSTANT 0 must be there for L, D. */
+    static int[][] pushes(String kinds) {
+        int[][] row = new int[kinds.length()][];
+        for (int k = 0; k < row.length; k++) {
+            row[k] = op("ILFDT".indexOf(kinds.charAt(k)), 0);
+        }
+        return row;
+    }
+
+    /** The same operation so many times. */
+    static int[][] times(int count, int... operation) {
+        int[][] row = new int[count][];
+        Arrays.fill(row, operation);
+        return row;
+    }
+
+    /** A row of operations with more behind it. */
+    static int[][] row(int[][] first, int[]... more) {
+        int[][] whole = Arrays.copyOf(first, first.length + more.length);
+        System.arraycopy(more, 0, whole, first.length, more.length);
+        return whole;
     }
 }
