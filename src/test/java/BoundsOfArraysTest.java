@@ -83,7 +83,8 @@ public final class BoundsOfArraysTest {
     /** "FAILURE 4 if one is below 0": also where none would be made of it, and ahead of 7. */
     private static void sizesBelowZero() {
         int[][] rows = {
-            {-1, 0}, {0, -1}, {-1, -1}, {101, -1}, {-1, 101}, {60, -1}, {LEAST, 1}, {1, LEAST}, {-1, 0, 0}, {0, -1, 0}, {0, 0, -1},
+            {-1, 0}, {0, -1}, {-1, -1}, {101, -1}, {-1, 101}, {60, -1}, {LEAST, 1}, {1, LEAST}, {-1, 0, 0}, {0, -1, 0},
+            {0, 0, -1},
             {0, 5, -1}, {101, 101, -1}, {-1, MOST, MOST}, {1, -1, 101},
         };
         for (int[] sizes : rows) {
@@ -123,7 +124,8 @@ public final class BoundsOfArraysTest {
     }
 
     private static void sixtyThingsAlreadyThere() {
-        int[][] rows = {{59, 60, 5}, {60, 60, 5}, {58, 60, 1, 5}, {59, 60, 1, 5}, {57, 60, 1, 1, 5}, {58, 59, 1, 1, 5}, {30, 60, 29, 0}, {31, 32, 29, 0}};
+        int[][] rows = {{59, 60, 5}, {60, 60, 5}, {58, 60, 1, 5}, {59, 60, 1, 5}, {57, 60, 1, 1, 5}, {58, 59, 1, 1, 5},
+            {30, 60, 29, 0}, {31, 32, 29, 0}};
         boolean[] fits = {true, false, true, false, true, false, true, false};
         for (int row = 0; row < rows.length; row++) {
             int[] sizes = java.util.Arrays.copyOfRange(rows[row], 2, rows[row].length);
@@ -190,7 +192,8 @@ public final class BoundsOfArraysTest {
                 C.due("cell " + k + " of TYPE " + type, x.cell(0, k), type < 16 ? 0 : NONE);
             }
         }
-        SeldomOps x = Programs.single(THING, op(0, 2), op(24, 8, 1), op(10), op(0, 1), op(0, 77), op(26, 0, INT), op(34, THING));
+        SeldomOps x = Programs.single(THING, op(0, 2), op(24, 8, 1), op(10), op(0, 1), op(0, 77), op(26, 0, INT),
+            op(34, THING));
         R.walked("filled", 0, x);
         C.due("filled", x.cell(0, 1), 77);
         C.due("not filled", x.cell(0, 0), 0);
@@ -233,7 +236,8 @@ public final class BoundsOfArraysTest {
                 boolean there = k >= 0 && k < size;
                 for (int code : new int[] {25, 26}) {
                     int[][] row = Programs.row(array(size, 8), op(0, k));
-                    row = code == 26 ? Programs.row(row, op(0, 9), op(26, 0, INT), op(34, 5)) : Programs.row(row, op(25, 0, INT), op(34, 5));
+                    row = code == 26 ? Programs.row(row, op(0, 9), op(26, 0, INT), op(34, 5)) : Programs.row(row,
+                        op(25, 0, INT), op(34, 5));
                     SeldomOps x = R.walked(code + " of cell " + k + " of " + size, there ? 0 : 1, Programs.single(5, row));
                     C.due("FAILURE of cell " + k + " of " + size, x.told(0), there ? NONE : 2);
                     C.due("at", x.told(1), there ? NONE : row.length - 2);
@@ -251,7 +255,8 @@ public final class BoundsOfArraysTest {
                 R.walked("25 " + b + " of TYPE " + type, such ? 0 : 1, x);
                 C.due("25 " + b + " of TYPE " + type, x.told(0), such ? NONE : 5);
                 int kind = b > 4 ? INT : b;
-                SeldomOps y = Runs.withConstant(0, 5, Programs.row(array(1, type), op(0, 0), op(kind), op(26, 0, b), op(34, 5)));
+                SeldomOps y = Runs.withConstant(0, 5, Programs.row(array(1, type), op(0, 0), op(kind), op(26, 0, b),
+                    op(34, 5)));
                 R.walked("26 " + b + " of TYPE " + type, such ? 0 : 1, y);
                 C.due("26 " + b + " of TYPE " + type, y.told(0), such ? NONE : 5);
             }
@@ -284,7 +289,8 @@ public final class BoundsOfArraysTest {
         };
         for (int k = 0; k < numbers.length; k++) {
             for (int e = 5; e <= 7; e++) {
-                SeldomOps x = Programs.single(INT, Programs.row(array(2, 8 + e), op(10), op(0, 1), op(0, numbers[k]), op(26, 0, e), op(0, 1),
+                SeldomOps x = Programs.single(INT, Programs.row(array(2, 8 + e), op(10), op(0, 1), op(0, numbers[k]),
+                    op(26, 0, e), op(0, 1),
                     op(25, 0, e), op(34, INT)));
                 R.walked("narrow", 0, x);
                 C.due(numbers[k] + " from cells " + e, x.value(), kept[e - 5][k]);
@@ -299,7 +305,8 @@ public final class BoundsOfArraysTest {
         for (long bits : new long[] {LEAST, MOST, -1, 65536, Long.MIN_VALUE, Long.MAX_VALUE, 0xfff0000000000001L}) {
             for (int e = INT; e <= DOUBLE; e++) {
                 SeldomOps x = new SeldomOps();
-                Programs.method(x, e, new int[] {e}, Programs.row(array(100, 8 + e), op(10), op(0, 99), op(5, 0, e), op(26, 0, e), op(0, 99),
+                Programs.method(x, e, new int[] {e}, Programs.row(array(100, 8 + e), op(10), op(0, 99), op(5, 0, e),
+                    op(26, 0, e), op(0, 99),
                     op(25, 0, e), op(34, e)));
                 R.walked("whole", 0, x, bits);
                 long want = Programs.width(e) == 2 ? bits : (int) bits;
@@ -318,18 +325,22 @@ public final class BoundsOfArraysTest {
             }
             for (int stored : TYPES) {
                 boolean may = stored == type - 8;
-                int[][] row = Programs.row(array(1, type), op(10), op(0, 0), op(0, 1), op(24, stored, 1), op(26, 0, THING), op(34, THING));
+                int[][] row = Programs.row(array(1, type), op(10), op(0, 0), op(0, 1), op(24, stored, 1),
+                    op(26, 0, THING), op(34, THING));
                 SeldomOps x = R.walked(stored + " into " + type, may ? 0 : 1, Programs.single(THING, row));
                 C.due(stored + " into " + type, x.told(0), may ? NONE : 3);
                 C.due("the cell", x.cell(0, 0), may ? 1 : NONE);
             }
-            R.fails("a FAILURE THING into " + type, 3, 4, Programs.row(array(1, type), op(0, 0), op(30, 0), op(26, 0, THING), op(34, 5)));
-            R.fails("into itself, " + type, 3, 5, Programs.row(array(1, type), op(10), op(0, 0), op(16), op(26, 0, THING), op(34, 5)));
+            R.fails("a FAILURE THING into " + type, 3, 4, Programs.row(array(1, type), op(0, 0), op(30, 0),
+                op(26, 0, THING), op(34, 5)));
+            R.fails("into itself, " + type, 3, 5, Programs.row(array(1, type), op(10), op(0, 0), op(16),
+                op(26, 0, THING), op(34, 5)));
         }
     }
 
     private static void nullMayBeStored() {
-        SeldomOps x = Programs.single(THING, op(0, 1), op(0, 1), op(24, 16, 2), op(10), op(0, 0), op(4), op(26, 0, THING), op(34, THING));
+        SeldomOps x = Programs.single(THING, op(0, 1), op(0, 1), op(24, 16, 2), op(10), op(0, 0), op(4),
+            op(26, 0, THING), op(34, THING));
         R.walked("null", 0, x);
         C.due("null instead of a row", x.cell(0, 0), NONE);
     }
@@ -349,7 +360,8 @@ public final class BoundsOfArraysTest {
     private static void arraysOfThatType() {
         for (int asked : TYPES) {
             for (int type : TYPES) {
-                R.gives("28 " + asked + " of " + type, asked == type ? 1 : 0, INT, Programs.row(array(0, type), op(28, asked), op(34, INT)));
+                R.gives("28 " + asked + " of " + type, asked == type ? 1 : 0, INT, Programs.row(array(0, type),
+                    op(28, asked), op(34, INT)));
                 SeldomOps x = Programs.single(THING, Programs.row(array(0, type), op(29, asked), op(34, THING)));
                 R.walked("29 " + asked + " of " + type, asked == type ? 0 : 1, x);
                 C.due("29 " + asked + " of " + type, x.told(0), asked == type ? NONE : 5);
@@ -363,7 +375,8 @@ public final class BoundsOfArraysTest {
 
     /** "Cell k of an array of the latest WALK .. BAD (which it may be): none such." */
     private static void cellsThatAreNone() {
-        SeldomOps x = Programs.single(THING, op(30, 0), op(8), op(0, 0), op(24, 8, 1), op(8), op(0, 100), op(24, 8, 1), op(34, THING));
+        SeldomOps x = Programs.single(THING, op(30, 0), op(8), op(0, 0), op(24, 8, 1), op(8), op(0, 100), op(24, 8, 1),
+            op(34, THING));
         C.due("before any WALK", x.cell(0, 0), BAD);
         R.walked("three THINGS", 0, x);
         C.due("of a FAILURE THING", x.cell(0, 0), BAD);
@@ -381,7 +394,8 @@ public final class BoundsOfArraysTest {
     private static void cellsThatAreLikeBad() {
         for (int e : new int[] {INT, LONG, FLOAT, DOUBLE}) {
             SeldomOps x = new SeldomOps();
-            Programs.method(x, 5, new int[] {e}, Programs.row(array(1, 8 + e), op(0, 0), op(5, 0, e), op(26, 0, e), op(34, 5)));
+            Programs.method(x, 5, new int[] {e}, Programs.row(array(1, 8 + e), op(0, 0), op(5, 0, e), op(26, 0, e),
+                op(34, 5)));
             R.walked("like BAD", 0, x, -2);
             C.due("a cell that is -2", x.cell(0, 0), -2);
         }

@@ -1,4 +1,7 @@
-/** OPERATIONS 30 to 35 in walks, HANDLERS and monitors: "handlers that cover themselves, monitors that are let go by who holds none". */
+/**
+ * OPERATIONS 30 to 35 in walks, HANDLERS and monitors: "handlers that cover themselves, monitors that are let go by
+ * who holds none".
+ */
 public final class BoundsOfFailuresTest {
     private static final Checks C = new Checks();
     private static final Runs R = new Runs(C);
@@ -144,7 +147,8 @@ public final class BoundsOfFailuresTest {
                 x.handler(0, 1, 2, 2, caught);
                 boolean is = caught == -1 || caught == number;
                 R.walked(number + " by a HANDLER for " + caught, is ? 0 : 1, x);
-                R.toldIs(number + " by a HANDLER for " + caught, x, is ? NONE : number, is ? NONE : 1, is ? NONE : 0, is ? 3 : 2, 1, 1, 1,
+                R.toldIs(number + " by a HANDLER for " + caught, x, is ? NONE : number, is ? NONE : 1, is ? NONE : 0,
+                    is ? 3 : 2, 1, 1, 1,
                     is ? 1 : 0, 0);
             }
         }
@@ -174,7 +178,8 @@ public final class BoundsOfFailuresTest {
                 x.handler(0, from, to, 4, 15);
                 boolean covers = from <= 2 && 2 < to;
                 R.walked("a CALL covered by " + from + " .. " + to, covers ? 0 : 1, x);
-                R.toldIs("a CALL covered by " + from + " .. " + to, x, covers ? NONE : 15, covers ? NONE : 7, covers ? NONE : 1,
+                R.toldIs("a CALL covered by " + from + " .. " + to, x, covers ? NONE : 15, covers ? NONE : 7,
+                    covers ? NONE : 1,
                     covers ? 13 : 11, 2, 1, 1, covers ? 1 : 0, 0);
             }
         }
@@ -197,11 +202,18 @@ public final class BoundsOfFailuresTest {
             }
             C.due("the first HANDLER", R.walked("the first HANDLER", 0, x).value(), first);
         }
+        SeldomOps x = Programs.single(5, op(4), op(31), op(8), LEAVE);
+        for (int h = 0; h < 6; h++) {
+            x.handler(0, 1, 2, 2, 2 + h);
+        }
+        R.walked("none of six", 1, x);
+        R.toldIs("none of six", x, 1, 1, 0, 2, 1, 1, 1, 0, 0);
     }
 
     /** "the STACK has that THING alone, and it goes on at the target" */
     private static void theStackOfHandlers() {
-        SeldomOps x = Programs.single(THING, Programs.row(Programs.times(11, 0, 1), op(4), op(31), op(4), op(4), LEAVE_THING, LEAVE_THING));
+        SeldomOps x = Programs.single(THING, Programs.row(Programs.times(11, 0, 1), op(4), op(31), op(4), op(4),
+            LEAVE_THING, LEAVE_THING));
         x.handler(0, 12, 13, 16, 1);
         C.due("the THING", R.walked("12 WORDS ahead of it", 0, x).value(), 0);
         R.toldIs("12 WORDS ahead of it", x, NONE, NONE, NONE, 14, 1, 1, 12, 1, 0);
@@ -299,7 +311,8 @@ public final class BoundsOfFailuresTest {
         for (int taken = 0; taken <= 2; taken++) {
             for (int letGo = 0; letGo <= 3; letGo++) {
                 SeldomOps x = new SeldomOps();
-                Programs.method(x, 5, NO_ARGUMENTS, Programs.row(held(2), op(5, 0, THING), op(35, 1), op(20, 8), op(8), op(20, 10)));
+                Programs.method(x, 5, NO_ARGUMENTS, Programs.row(held(2), op(5, 0, THING), op(35, 1), op(20, 8), op(8),
+                    op(20, 10)));
                 x.handler(0, 7, 8, 9, 6);
                 int[][] row = {};
                 for (int t = 0; t < taken; t++) {
@@ -319,7 +332,8 @@ public final class BoundsOfFailuresTest {
     private static void monitorsOfCallsOfOneMethod() {
         SeldomOps x = new SeldomOps();
         Programs.method(x, 5, NO_ARGUMENTS, op(30, 0), op(0, 2), op(35, 1), LEAVE);
-        Programs.method(x, 5, new int[] {THING, INT}, op(5, 0, THING), op(32), op(5, 1, INT), op(21, 8, 5), op(5, 0, THING), op(7, 1, -1),
+        Programs.method(x, 5, new int[] {THING, INT}, op(5, 0, THING), op(32), op(5, 1, INT), op(21, 8, 5),
+            op(5, 0, THING), op(7, 1, -1),
             op(5, 1, INT), op(35, 1), op(5, 0, THING), op(33), LEAVE);
         R.walkedFor("three hold it", x, 3 + 8 + 8 + 2, 2);
         C.due("three hold it", x.thing(0, 2), 3);
@@ -332,7 +346,8 @@ public final class BoundsOfFailuresTest {
     private static void monitorsLetGoByFailing() {
         SeldomOps x = new SeldomOps();
         Programs.method(x, 5, NO_ARGUMENTS, Programs.row(held(1), op(5, 0, THING), op(35, 1), op(20, 6), op(8), op(20, 8)));
-        Programs.method(x, 5, new int[] {THING}, op(5, 0, THING), op(32), op(5, 0, THING), op(32), op(5, 0, THING), op(35, 2), LEAVE);
+        Programs.method(x, 5, new int[] {THING}, op(5, 0, THING), op(32), op(5, 0, THING), op(32), op(5, 0, THING),
+            op(35, 2), LEAVE);
         Programs.method(x, 5, new int[] {THING}, op(5, 0, THING), op(32), op(4), op(31));
         x.handler(0, 5, 6, 7, 1);
         R.walkedFor("ahead of it", x, 6 + 6 + 3, 2);
@@ -350,7 +365,8 @@ public final class BoundsOfFailuresTest {
 
     /** "FAILURE 6, if it holds a monitor (it holds all it held)" */
     private static void leavingWithMonitors() {
-        SeldomOps x = Programs.single(INT, Programs.row(held(2), op(0, 7), op(34, INT), op(8), op(0, 8), op(5, 0, THING), op(33), op(34, INT)));
+        SeldomOps x = Programs.single(INT, Programs.row(held(2), op(0, 7), op(34, INT), op(8), op(0, 8),
+            op(5, 0, THING), op(33), op(34, INT)));
         x.handler(0, 7, 8, 8, 6);
         x.handler(0, 12, 13, 8, 6);
         R.walkedFor("held twice still", x, 8, 2);
@@ -389,7 +405,8 @@ public final class BoundsOfFailuresTest {
     /** METHOD 0 CALLS itself so often as its ARGUMENT tells, and counts how often. */
     private static SeldomOps calling() {
         SeldomOps x = new SeldomOps();
-        Programs.method(x, INT, new int[] {INT}, op(5, 0, INT), op(21, 9, 5), op(5, 0, INT), op(0, 1), op(17, 1, INT), op(35, 0), op(0, 1),
+        Programs.method(x, INT, new int[] {INT}, op(5, 0, INT), op(21, 9, 5), op(5, 0, INT), op(0, 1), op(17, 1, INT),
+            op(35, 0), op(0, 1),
             op(17, 0, INT), op(34, INT), op(0, 0), op(34, INT));
         return x;
     }
@@ -413,7 +430,8 @@ public final class BoundsOfFailuresTest {
     /** What is over is not under way: far more than 6 in turn. */
     private static void callsInTurn() {
         SeldomOps x = new SeldomOps();
-        Programs.method(x, 5, NO_ARGUMENTS, op(0, 20), op(6, 0, INT), op(35, 1), op(7, 0, -1), op(5, 0, INT), op(21, 2, 1), LEAVE);
+        Programs.method(x, 5, NO_ARGUMENTS, op(0, 20), op(6, 0, INT), op(35, 1), op(7, 0, -1), op(5, 0, INT),
+            op(21, 2, 1), LEAVE);
         Programs.method(x, 5, NO_ARGUMENTS, LEAVE);
         R.walked("20 in turn", 0, x);
         C.due("20 in turn", x.told(4), 21);
@@ -429,7 +447,8 @@ public final class BoundsOfFailuresTest {
 
     private static void tooManyCallsCaught() {
         SeldomOps x = new SeldomOps();
-        Programs.method(x, INT, NO_ARGUMENTS, op(35, 0), op(0, 1), op(17, 0, INT), op(34, INT), op(8), op(0, 100), op(34, INT));
+        Programs.method(x, INT, NO_ARGUMENTS, op(35, 0), op(0, 1), op(17, 0, INT), op(34, INT), op(8), op(0, 100),
+            op(34, INT));
         x.handler(0, 0, 1, 4, 8);
         C.due("caught in the sixth", R.walked("caught in the sixth", 0, x).value(), 105);
         R.toldIs("caught in the sixth", x, NONE, NONE, NONE, 6 + 3 + 5 * 3, 6, 1, 2, 1, 0);
@@ -439,7 +458,8 @@ public final class BoundsOfFailuresTest {
     private static void argumentsInOrder() {
         for (int place = 0; place < 8; place++) {
             SeldomOps x = new SeldomOps();
-            Programs.method(x, INT, NO_ARGUMENTS, op(0, 1000), op(0, 0), op(0, 1), op(0, 2), op(0, 3), op(0, 4), op(0, 5), op(0, 6), op(0, 7),
+            Programs.method(x, INT, NO_ARGUMENTS, op(0, 1000), op(0, 0), op(0, 1), op(0, 2), op(0, 3), op(0, 4),
+                op(0, 5), op(0, 6), op(0, 7),
                 op(35, 1), op(17, 0, INT), op(34, INT));
             Programs.method(x, INT, new int[] {0, 0, 0, 0, 0, 0, 0, 0}, op(5, place, INT), op(34, INT));
             C.due("ARGUMENT " + place, R.walked("ARGUMENTS", 0, x).value(), 1000 + place);

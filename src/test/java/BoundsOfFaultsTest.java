@@ -161,7 +161,8 @@ public final class BoundsOfFaultsTest {
     }
 
     private static int jumpsNowhere(int code, int target, int operations) {
-        SeldomOps x = Programs.single(5, Programs.row(new int[][] {op(code, target)}, Programs.times(operations - 1, 34, 5)));
+        SeldomOps x = Programs.single(5, Programs.row(new int[][] {op(code, target)},
+            Programs.times(operations - 1, 34, 5)));
         return x.judge(0) == -12 ? 1 : 0;
     }
 

@@ -58,7 +58,8 @@ public final class BoundsOfNumbersTest {
         int[] places = {12, 13, 15};
         long[] due = {12, -1L << 40, 15};
         for (int k = 0; k < 3; k++) {
-            SeldomOps x = Runs.withConstant(-1L << 40, results[k], op(1), op(6, 13, LONG), op(0, 12), op(6, 12, INT), op(0, 14),
+            SeldomOps x = Runs.withConstant(-1L << 40, results[k], op(1), op(6, 13, LONG), op(0, 12), op(6, 12, INT),
+                op(0, 14),
                 op(6, 15, INT), op(7, 15, 1), op(5, places[k], results[k]), op(34, results[k]));
             C.due("LOCAL " + places[k], R.walked("beside one another", 0, x).value(), due[k]);
         }
@@ -137,7 +138,8 @@ public final class BoundsOfNumbersTest {
     private static void towardsZero() {
         int[][] rows = {
             {7, 2, 3, 1}, {-7, 2, -3, -1}, {7, -2, -3, 1}, {-7, -2, 3, -1}, {1, 2, 0, 1}, {-1, 2, 0, -1}, {6, 3, 2, 0},
-            {-6, 3, -2, 0}, {0, -5, 0, 0}, {LEAST, MOST, -1, -1}, {MOST, LEAST, 0, MOST}, {LEAST, LEAST, 1, 0}, {LEAST, 2, -1 << 30, 0},
+            {-6, 3, -2, 0}, {0, -5, 0, 0}, {LEAST, MOST, -1, -1}, {MOST, LEAST, 0, MOST}, {LEAST, LEAST, 1, 0},
+            {LEAST, 2, -1 << 30, 0},
         };
         for (int[] row : rows) {
             ints(3, row[0], row[1], row[2]);
@@ -154,7 +156,8 @@ public final class BoundsOfNumbersTest {
         for (int x : new int[] {0, 1, LEAST}) {
             for (int a = 3; a <= 4; a++) {
                 R.fails("INT by 0", 0, 2, op(0, x), op(0, 0), op(17, a, INT), op(34, 5));
-                SeldomOps y = R.walked("LONG by 0", 1, Programs.single(5, op(0, x), op(18, 4), op(0, 0), op(18, 4), op(17, a, LONG), op(34, 5)));
+                SeldomOps y = R.walked("LONG by 0", 1, Programs.single(5, op(0, x), op(18, 4), op(0, 0), op(18, 4),
+                    op(17, a, LONG), op(34, 5)));
                 R.toldIs("LONG by 0", y, 0, 4, 0);
             }
         }
@@ -213,10 +216,14 @@ public final class BoundsOfNumbersTest {
 
     /** "18 by a: (I -> I) its lowest 0: 8 bits with sign, 1: 16 bits with sign, 2: 16 bits without; 3 .. 32 bits" */
     private static void lowestBits() {
-        long[][] eight = {{127, 127}, {128, -128}, {255, -1}, {256, 0}, {-128, -128}, {-129, 127}, {-1, -1}, {LEAST, 0}, {MOST, -1}};
-        long[][] sixteen = {{32767, 32767}, {32768, -32768}, {65535, -1}, {65536, 0}, {-32768, -32768}, {-32769, 32767}, {LEAST, 0}, {MOST, -1}};
-        long[][] without = {{32767, 32767}, {32768, 32768}, {65535, 65535}, {65536, 0}, {-1, 65535}, {-65536, 0}, {LEAST, 0}, {MOST, 65535}};
-        long[][] lowest = {{MOST, MOST}, {2147483648L, LEAST}, {4294967295L, -1}, {4294967296L, 0}, {-2147483649L, MOST}, {LEAST_LONG, 0}, {MOST_LONG, -1}};
+        long[][] eight = {{127, 127}, {128, -128}, {255, -1}, {256, 0}, {-128, -128}, {-129, 127}, {-1, -1}, {LEAST, 0},
+            {MOST, -1}};
+        long[][] sixteen = {{32767, 32767}, {32768, -32768}, {65535, -1}, {65536, 0}, {-32768, -32768}, {-32769, 32767},
+            {LEAST, 0}, {MOST, -1}};
+        long[][] without = {{32767, 32767}, {32768, 32768}, {65535, 65535}, {65536, 0}, {-1, 65535}, {-65536, 0},
+            {LEAST, 0}, {MOST, 65535}};
+        long[][] lowest = {{MOST, MOST}, {2147483648L, LEAST}, {4294967295L, -1}, {4294967296L, 0},
+            {-2147483649L, MOST}, {LEAST_LONG, 0}, {MOST_LONG, -1}};
         for (long[] row : eight) {
             converted(0, INT, INT, row[0], row[1]);
         }
@@ -256,7 +263,8 @@ public final class BoundsOfNumbersTest {
     /** "(0.0 and -0.0 are alike; if one is no number: -1 for 1, 3; 1 for 2, 4)", FLOATS. */
     private static void floatsCompared() {
         for (int a = 1; a <= 2; a++) {
-            risesBy(FLOAT, a, 0xff800000, 0xff7fffff, 0xbf800001, 0xbf800000, 0x80800000, 0x807fffff, 0x80000001, 0, 1, 0x7fffff,
+            risesBy(FLOAT, a, 0xff800000, 0xff7fffff, 0xbf800001, 0xbf800000, 0x80800000, 0x807fffff, 0x80000001, 0, 1,
+                0x7fffff,
                 0x800000, 0x3f800000, 0x3f800001, 0x7f7fffff, 0x7f800000);
             compared(FLOAT, a, 0x80000000, 0, 0);
             compared(FLOAT, a, 0, 0x80000000, 0);
@@ -281,7 +289,8 @@ public final class BoundsOfNumbersTest {
     private static void doublesCompared() {
         long sign = LEAST_LONG;
         for (int a = 3; a <= 4; a++) {
-            risesBy(DOUBLE, a, sign | 0x7ff0000000000000L, sign | 0x7fefffffffffffffL, sign | 0x3ff0000000000001L, sign | 0x3ff0000000000000L,
+            risesBy(DOUBLE, a, sign | 0x7ff0000000000000L, sign | 0x7fefffffffffffffL, sign | 0x3ff0000000000001L,
+                sign | 0x3ff0000000000000L,
                 sign | 1, 0, 1, 0xffffffffL, 0x100000000L, 0x3ff0000000000000L, 0x3ff0000000000001L, 0x7fefffffffffffffL,
                 0x7ff0000000000000L);
             compared(DOUBLE, a, sign, 0, 0);
@@ -289,7 +298,8 @@ public final class BoundsOfNumbersTest {
             compared(DOUBLE, a, sign, sign, 0);
             compared(DOUBLE, a, sign, 1, -1);
             compared(DOUBLE, a, sign, sign | 1, 1);
-            noNumbers(DOUBLE, a, new long[] {0x7ff0000000000001L, 0x7ff0000100000000L, MOST_LONG, sign | 0x7ff0000000000001L, -1},
+            noNumbers(DOUBLE, a, new long[] {0x7ff0000000000001L, 0x7ff0000100000000L, MOST_LONG,
+                sign | 0x7ff0000000000001L, -1},
                 new long[] {0, 0x7ff0000000000000L, sign | 0x7ff0000000000000L, 0x7ff8000000000000L});
         }
     }
@@ -300,7 +310,8 @@ public final class BoundsOfNumbersTest {
         int[] numbers = {LEAST, -1, 0, 1, MOST};
         for (int b = 0; b < 6; b++) {
             for (int k = 0; k < numbers.length; k++) {
-                R.gives(numbers[k] + " by 21 " + b, goes[b].charAt(k) - '0', INT, op(0, numbers[k]), op(21, 4, b), op(0, 0), op(34, INT),
+                R.gives(numbers[k] + " by 21 " + b, goes[b].charAt(k) - '0', INT, op(0, numbers[k]), op(21, 4, b),
+                    op(0, 0), op(34, INT),
                     op(0, 1), op(34, INT));
             }
         }
@@ -345,8 +356,10 @@ public final class BoundsOfNumbersTest {
 
     /** "of a DENSE one for the keys low, low + 1, ..", "to the target that TABLE a has for it, else to the other one" */
     private static void denseTablesAtBothEnds() {
-        goesBy(table(false, -3, eightFrom(-3)), new int[] {-4, -3, -2, 0, 4, 5, LEAST, MOST}, new int[] {-1, 0, 1, 3, 7, -1, -1, -1});
-        goesBy(table(false, LEAST, eightFrom(LEAST)), new int[] {LEAST, LEAST + 7, LEAST + 8, MOST, 0}, new int[] {0, 7, -1, -1, -1});
+        goesBy(table(false, -3, eightFrom(-3)), new int[] {-4, -3, -2, 0, 4, 5, LEAST, MOST},
+            new int[] {-1, 0, 1, 3, 7, -1, -1, -1});
+        goesBy(table(false, LEAST, eightFrom(LEAST)), new int[] {LEAST, LEAST + 7, LEAST + 8, MOST, 0},
+            new int[] {0, 7, -1, -1, -1});
         goesBy(table(false, MOST - 7, eightFrom(MOST - 7)), new int[] {MOST - 8, MOST - 7, MOST - 1, MOST, LEAST, 0},
             new int[] {-1, 0, 6, 7, -1, -1});
         goesBy(table(false, MOST, MOST), new int[] {MOST - 1, MOST, LEAST, 0}, new int[] {-1, 0, -1, -1});

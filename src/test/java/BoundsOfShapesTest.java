@@ -40,7 +40,8 @@ public final class BoundsOfShapesTest {
 
     /** "OPERATION 0 has the SHAPE of the ARGUMENTS, the STACK empty", "nothing is in the others". */
     private static void shapeOfArguments() {
-        int[][] arguments = {{}, {0}, {1}, {4, 3}, {0, 1, 2, 3, 4, 0}, {1, 3, 1, 3}, {2, 2, 2, 2, 2, 2, 2, 2}, {0, 3, 3, 3, 4}};
+        int[][] arguments = {{}, {0}, {1}, {4, 3}, {0, 1, 2, 3, 4, 0}, {1, 3, 1, 3}, {2, 2, 2, 2, 2, 2, 2, 2},
+            {0, 3, 3, 3, 4}};
         int[][] locals = {
             {}, {0}, {1, 6}, {4, 3, 7}, {0, 1, 6, 2, 3, 7, 4, 0}, {1, 6, 3, 7, 1, 6, 3, 7}, {2, 2, 2, 2, 2, 2, 2, 2},
             {0, 3, 7, 3, 7, 3, 7, 4},
@@ -99,7 +100,8 @@ public final class BoundsOfShapesTest {
     }
 
     private static void storedAtBothEnds() {
-        SeldomOps x = Runs.withConstant(0, 5, op(1), op(6, 0, 1), op(3), op(6, 14, 3), op(0), op(6, 0, 0), op(0), op(6, 15, 0),
+        SeldomOps x = Runs.withConstant(0, 5, op(1), op(6, 0, 1), op(3), op(6, 14, 3), op(0), op(6, 0, 0), op(0),
+            op(6, 15, 0),
             op(1), op(6, 14, 1), LEAVE);
         R.judgedAs("at both ends", x, 0, 0, 0);
         R.localsAre("LONG at 0", x, 4, 0, 1, 6, 5);
@@ -107,6 +109,11 @@ public final class BoundsOfShapesTest {
         R.localsAre("INT at 0", x, 6, 0, 0, 5, 5);
         R.localsAre("INT at 15", x, 8, 13, 5, 5, 0);
         R.localsAre("LONG at 14", x, 10, 13, 5, 1, 6);
+        for (int wide : new int[] {1, 3}) {
+            SeldomOps y = Runs.withConstant(0, 5, op(wide), op(6, 0, wide), op(0), op(6, 1, 0), LEAVE);
+            R.judgedAs("over the second of the first two", y, 0, 0, 0);
+            R.localsAre("over the second of the first two", y, 4, 0, 5, 0, 5);
+        }
     }
 
     /** Stores by the next one, stores by the target; both ways come to one OPERATION, whose number is told. */
@@ -385,6 +392,10 @@ public final class BoundsOfShapesTest {
         C.due("not judged", x.good(0), 0);
         x.judge(0);
         C.due("judged without FAULT", x.good(0), 1);
+        SeldomOps y = new SeldomOps();
+        y.method(5);
+        C.due("just told", y.good(0), 0);
+        C.due("just told, so no WALK", y.walk(0, 9), SeldomOps.NO);
         C.due("another one", x.good(1), 0);
         x.judge(1);
         C.due("judged with a FAULT", x.good(1), 0);
@@ -460,9 +471,20 @@ public final class BoundsOfShapesTest {
         x.alter(0, 1, 9, 0, 0);
         R.judgedAs("a FAULT at 1", x, 0, 3, 1);
         C.due("nothing of an earlier judge()", x.shape(0, 4, -1), NONE);
+        nothingIsLeftToBeDone();
         SeldomOps y = Programs.single(5, op(1, 0), LEAVE);
         R.judgedAs("a FAULT at 0", y, 0, 7, 0);
         R.stackIs("0 has a SHAPE", y, 0);
         C.due("1 has none", y.shape(0, 1, -1), NONE);
+    }
+
+    /** A FAULT ends judging while 4 was still to be done; the next time no way goes to 4. */
+    private static void nothingIsLeftToBeDone() {
+        SeldomOps x = Programs.single(5, op(0), op(21, 4, 0), op(8), LEAVE, op(8), LEAVE);
+        R.judgedAs("a FAULT at 2", x, 0, 3, 2);
+        R.stackIs("4 was still to be done", x, 4);
+        x.alter(0, 1, 20, 3, 0);
+        R.judgedAs("4 is not gone to", x, 0, 0, 0);
+        C.due("4 has no SHAPE", x.shape(0, 4, -1), NONE);
     }
 }

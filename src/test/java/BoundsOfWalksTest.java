@@ -93,7 +93,8 @@ public final class BoundsOfWalksTest {
             for (int steps = 0; steps <= operations + 2; steps++) {
                 boolean enough = steps > operations;
                 C.due("16: " + steps + " STEPS for " + operations, x.walk(0, steps), enough ? 0 : 2);
-                R.toldIs("18: " + steps + " STEPS for " + operations, x, NONE, NONE, NONE, Math.min(steps, operations + 1), 1, 0,
+                R.toldIs("18: " + steps + " STEPS for " + operations, x, NONE, NONE, NONE,
+                    Math.min(steps, operations + 1), 1, 0,
                     Math.min(steps, operations), 0, enough ? 0 : 1);
                 C.due("17: value", x.value(), enough ? 7 : 0);
             }
@@ -125,7 +126,7 @@ public final class BoundsOfWalksTest {
         }
     }
 
-    /** A loop of 4 STEPS a round, 5 ahead of it and one behind: just 3000 are needed, or one more. */
+    /** 999 rounds of 3 STEPS, with two or more ahead of them and one behind: just 3000 are needed, or more. */
     private static void threeThousandSteps() {
         for (int ahead = 2; ahead <= 5; ahead++) {
             SeldomOps x = new SeldomOps();
@@ -218,7 +219,8 @@ public final class BoundsOfWalksTest {
 
     /** "(INTS, FLOATS: the lowest 32 bits ..)", LONGS and DOUBLES all 64. */
     private static void lowestBitsOfGiven() {
-        long[] given = {0, MOST, 2147483648L, 4294967295L, 4294967296L, -2147483649L, LEAST, Long.MIN_VALUE, Long.MAX_VALUE, -1};
+        long[] given = {0, MOST, 2147483648L, 4294967295L, 4294967296L, -2147483649L, LEAST, Long.MIN_VALUE,
+            Long.MAX_VALUE, -1};
         long[] lowest = {0, MOST, LEAST, -1, 0, MOST, LEAST, 0, -1, -1};
         for (int k = 0; k < given.length; k++) {
             for (int kind = INT; kind <= DOUBLE; kind++) {
@@ -302,7 +304,8 @@ public final class BoundsOfWalksTest {
     /** Of each WALK anew: what an earlier one had does not stay. */
     private static void toldOfOneThatIsOver() {
         SeldomOps x = new SeldomOps();
-        Programs.method(x, 5, new int[] {INT}, op(5, 0, INT), op(21, 3, 0), LEAVE, op(4), op(4), op(27), op(8), op(8), op(35, 1), LEAVE);
+        Programs.method(x, 5, new int[] {INT}, op(5, 0, INT), op(21, 3, 0), LEAVE, op(4), op(4), op(27), op(8), op(8),
+            op(35, 1), LEAVE);
         Programs.method(x, 5, NO_ARGUMENTS, op(30, 14), op(31));
         x.handler(0, 5, 6, 7, 1);
         R.walked("failed", 1, x, 0);
@@ -347,7 +350,8 @@ public final class BoundsOfWalksTest {
         C.due("18: the most so far", x.told(6), 6);
         R.walkedFor("by the RESULT", x, 8, 2);
         C.due("18: by the RESULT", x.told(6), 8);
-        C.due("18: one behind the other", R.walkedFor("dropped", Runs.withConstant(0, 5, op(1), op(9), op(0), op(8), LEAVE), 99, 0).told(6), 2);
+        SeldomOps y = Runs.withConstant(0, 5, op(1), op(9), op(0), op(8), LEAVE);
+        C.due("18: one behind the other", R.walked("dropped", 0, y).told(6), 2);
     }
 
     /** "8 CALLS that are under way behind it (2: as it stands; else 0)" */

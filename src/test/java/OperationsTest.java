@@ -128,7 +128,8 @@ public final class OperationsTest {
                 long[] want = {x + y, x - y, x * y, y == 0 ? 0 : x / y, y == 0 ? 0 : x % y, x & y, x | y, x ^ y};
                 for (int a = 0; a < 8; a++) {
                     if (y != 0 || a != 3 && a != 4) {
-                        C.due(x + " by " + a + " " + y, R.onArguments(LONG, new int[] {1, 1}, op(17, a, LONG), x, y), want[a]);
+                        C.due(x + " by " + a + " " + y, R.onArguments(LONG, new int[] {1, 1}, op(17, a, LONG), x, y),
+                            want[a]);
                     }
                 }
             }
@@ -295,7 +296,8 @@ public final class OperationsTest {
     }
 
     private static void arraysInArrays() {
-        SeldomOps x = R.walked("2 by 2 by 3", 0, Programs.single(THING, op(0, 2), op(0, 2), op(0, 3), op(24, 29, 3), op(34, THING)));
+        SeldomOps x = R.walked("2 by 2 by 3", 0, Programs.single(THING, op(0, 2), op(0, 2), op(0, 3), op(24, 29, 3),
+            op(34, THING)));
         int[][] want = {{29, 2}, {21, 2}, {13, 3}, {13, 3}, {21, 2}, {13, 3}, {13, 3}};
         C.due("THINGS", x.told(5), 7);
         for (int i = 0; i < want.length; i++) {
@@ -313,7 +315,8 @@ public final class OperationsTest {
         C.due("null row", x.cell(1, 1), NONE);
         x = R.walked("3 rows of 0", 0, Programs.single(THING, op(0, 3), op(0, 0), op(0, 500), op(24, 24, 3), op(34, THING)));
         C.due("THINGS", x.told(5), 4);
-        x = R.walked("0 rows of 500", 0, Programs.single(THING, op(0, 0), op(0, 500), op(0, MOST), op(24, 24, 3), op(34, THING)));
+        x = R.walked("0 rows of 500", 0, Programs.single(THING, op(0, 0), op(0, 500), op(0, MOST), op(24, 24, 3),
+            op(34, THING)));
         C.due("THINGS", x.told(5), 1);
     }
 
@@ -384,9 +387,12 @@ public final class OperationsTest {
         C.due("the row", x.value(), 1);
         C.due("cell 1", x.cell(0, 1), 1);
         C.due("cell 0", x.cell(0, 0), NONE);
-        R.fails("two DIMENSIONS less", 3, 6, op(0, 2), make, op(10), op(0, 1), op(0, 3), op(24, 8, 1), op(26, 0, THING), op(34, 5));
-        R.fails("as many DIMENSIONS", 3, 6, op(0, 2), make, op(10), op(0, 1), op(0, 3), op(24, 24, 1), op(26, 0, THING), op(34, 5));
-        R.fails("other cells inside", 3, 6, op(0, 2), make, op(10), op(0, 1), op(0, 3), op(24, 17, 1), op(26, 0, THING), op(34, 5));
+        R.fails("two DIMENSIONS less", 3, 6, op(0, 2), make, op(10), op(0, 1), op(0, 3), op(24, 8, 1), op(26, 0, THING),
+            op(34, 5));
+        R.fails("as many DIMENSIONS", 3, 6, op(0, 2), make, op(10), op(0, 1), op(0, 3), op(24, 24, 1), op(26, 0, THING),
+            op(34, 5));
+        R.fails("other cells inside", 3, 6, op(0, 2), make, op(10), op(0, 1), op(0, 3), op(24, 17, 1), op(26, 0, THING),
+            op(34, 5));
         R.fails("a FAILURE THING", 3, 5, op(0, 2), make, op(10), op(0, 1), op(30, 0), op(26, 0, THING), op(34, 5));
         R.fails("2 ahead of 3", 2, 5, op(0, 2), make, op(10), op(0, 2), op(30, 0), op(26, 0, THING), op(34, 5));
     }

@@ -38,7 +38,8 @@ public final class RefusalsTest {
             x.entry(1, 10 + e, 58);
         }
         Programs.method(x, 1, new int[] {0, 0, 0, 0, 0, 0, 0, 0}, Programs.times(50, 7, 7, 0));
-        Programs.add(x, 0, op(5, 7, 0), op(23, 0), op(5, 0, 0), op(4), op(31), op(8), op(1, 38), op(34, 1), op(1, 39), op(34, 1));
+        Programs.add(x, 0, op(5, 7, 0), op(23, 0), op(5, 0, 0), op(4), op(31), op(8), op(1, 38), op(34, 1), op(1, 39),
+            op(34, 1));
         for (int h = 1; h < 8; h++) {
             Programs.method(x, 4, new int[0], op(0, 2), op(24, 9, 1), op(30, 3), op(31), op(34, 4));
             if (h < 7) {
